@@ -1018,7 +1018,9 @@ public final class PromiseTest {
         due("room to the last cell", x.would(1, 2), 0);
         due("begins a page", x.would(1, 3), 1);
         x.end(0);
-        x.tick(16);
+        x.tick(15);
+        due("no extension yet", x.would(0, 2), 0);
+        x.tick(1);
         due("no room with an extension", x.would(0, 1), 1);
         x.take(0, 8);
         due("overwrites", x.would(1, 8), 2);
@@ -1162,6 +1164,32 @@ public final class PromiseTest {
         x.again(0);
         due("now", x.count(3), 5);
         due("again(1)", x.again(1), false);
+        imageOfReaderAndOpen();
+    }
+
+    private static void imageOfReaderAndOpen() {
+        TraceRing x = new TraceRing();
+        Check.script(x, "tick 3; take 1 2; put 1 60; end 1; take 0 1; end 0; take 0 1; end 0; force; read 1;");
+        Check.script(x, "take 2 2; put 2 61; end 2; take 0 3; put 0 62; put 0 63;");
+        x.image(1);
+        dueRing(x, "pages 6; cells 32; refuse;", 192);
+        x.storm(12, 60);
+        x.again(1);
+        int[] read = {1, 1, 3, 2, 0, 2};
+        for (int what = 0; what < read.length; what++) {
+            due("again: latest(" + what + ")", x.latest(what), read[what]);
+        }
+        due("again: latest(10)", x.latest(10), 60);
+        int[] ready = {4, 2, 3, 2};
+        for (int what = 0; what < ready.length; what++) {
+            due("again: record(0, " + what + ")", x.record(0, what), ready[what]);
+        }
+        due("again: record(0, 10)", x.record(0, 10), 61);
+        due("again: put", x.put(0, 64), 0);
+        dueCells(x, 0, 32, 61, 0, 48, 62, 63, 64, 0);
+        due("again: drop", x.drop(0), 0);
+        dueCells(x, 0, 32, 61, 0, 0, 0, 0, 0, 0);
+        due("again: read", x.read(), 2);
     }
 
     private static void constants() {
