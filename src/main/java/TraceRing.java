@@ -98,7 +98,7 @@ public final class TraceRing {
     /** Here is tried what must not stay. */
     private final Ring spare = new Ring();
     private final Text text = new Text();
-    private final Lines lines = new Lines(text);
+    private final Lines lines = new Lines();
     private final Storm storm = new Storm();
     private final Image[] images = new Image[IMAGES];
 
@@ -113,7 +113,7 @@ public final class TraceRing {
     }
 
     public int ring() {
-        boolean understood = lines.understand(PAGES, REFUSE);
+        boolean understood = lines.understand(text, PAGES, REFUSE);
         text.length = 0;
         if (!understood) {
             return NONE;
@@ -123,7 +123,7 @@ public final class TraceRing {
     }
 
     public int script() {
-        boolean understood = lines.understand(TICK, RESIZE);
+        boolean understood = lines.understand(text, TICK, RESIZE);
         text.length = 0;
         return understood ? lines.carryOut(ring) : NONE;
     }
@@ -1112,12 +1112,17 @@ public final class TraceRing {
         }
     }
 
-    /** The text that is told, and what was found wrong in the one read last. */
+    /** The text that is told, its tokens, one at a time, and what was found wrong in the one read last. */
     private static final class Text {
         final int[] bytes = new int[MOST_BYTES];
         int length;
         int fault = NO_FAULT;
         int faultPlace = NONE;
+        /** The token that is looked at, and where what is behind it begins. */
+        int kind = THE_END;
+        int start;
+        int value;
+        int next;
 
         void copyFrom(Text other) {
             copyRow(other.bytes, bytes);
@@ -1154,19 +1159,6 @@ public final class TraceRing {
             fault = newFault;
             faultPlace = place;
         }
-    }
-
-    /** The tokens of the text, one at a time. */
-    private static final class Tokens {
-        final Text text;
-        int next;
-        int kind;
-        int start;
-        int value;
-
-        Tokens(Text itsText) {
-            text = itsText;
-        }
 
         void goToFirst() {
             next = 0;
@@ -1174,12 +1166,12 @@ public final class TraceRing {
         }
 
         void goToNext() {
-            while (next < text.length && isBlank(text.byteAt(next))) {
+            while (next < length && isBlank(byteAt(next))) {
                 next++;
             }
             start = next;
-            int first = text.byteAt(start);
-            if (start >= text.length) {
+            int first = byteAt(start);
+            if (start >= length) {
                 kind = THE_END;
             } else if (isLetter(first)) {
                 passWord();
@@ -1192,7 +1184,7 @@ public final class TraceRing {
         }
 
         void passWord() {
-            while (next < text.length && isLetter(text.byteAt(next))) {
+            while (next < length && isLetter(byteAt(next))) {
                 next++;
             }
             kind = A_WORD;
@@ -1200,8 +1192,8 @@ public final class TraceRing {
 
         void passNumber() {
             value = 0;
-            while (next < text.length && isDigit(text.byteAt(next))) {
-                value = 10 * value + text.byteAt(next) - '0';
+            while (next < length && isDigit(byteAt(next))) {
+                value = 10 * value + byteAt(next) - '0';
                 next++;
             }
             kind = next - start <= MOST_DIGITS ? A_NUMBER : NO_TOKEN;
@@ -1224,7 +1216,7 @@ public final class TraceRing {
                 return false;
             }
             for (int i = 0; i < word.length(); i++) {
-                if (text.byteAt(start + i) != word.charAt(i)) {
+                if (byteAt(start + i) != word.charAt(i)) {
                     return false;
                 }
             }
@@ -1234,8 +1226,6 @@ public final class TraceRing {
 
     /** The lines that the text tells: each a verb and up to two numbers. */
     private static final class Lines {
-        final Text text;
-        final Tokens tokens;
         final int[] verbs = new int[MOST_LINES];
         final int[] firsts = new int[MOST_LINES];
         final int[] seconds = new int[MOST_LINES];
@@ -1243,20 +1233,15 @@ public final class TraceRing {
         /** Where the first number stands that can not be. */
         int wrongPlace;
 
-        Lines(Text itsText) {
-            text = itsText;
-            tokens = new Tokens(itsText);
-        }
-
         /** Reads all lines, whose verbs are such ones: whether there is no fault. */
-        boolean understand(int firstVerb, int lastVerb) {
+        boolean understand(Text text, int firstVerb, int lastVerb) {
             many = 0;
             wrongPlace = NONE;
             text.blame(NO_FAULT, NONE);
-            tokens.goToFirst();
-            while (many < MOST_LINES && tokens.kind != THE_END) {
-                if (!passLine(firstVerb, lastVerb)) {
-                    text.blame(WRONG_TOKEN, tokens.start);
+            text.goToFirst();
+            while (many < MOST_LINES && text.kind != THE_END) {
+                if (!passLine(text, firstVerb, lastVerb)) {
+                    text.blame(WRONG_TOKEN, text.start);
                     return false;
                 }
                 many++;
@@ -1269,33 +1254,33 @@ public final class TraceRing {
         }
 
         /** False, if the token can not stand there: it is the current one then. */
-        boolean passLine(int firstVerb, int lastVerb) {
-            int verb = verbHere(firstVerb, lastVerb);
+        boolean passLine(Text text, int firstVerb, int lastVerb) {
+            int verb = verbHere(text, firstVerb, lastVerb);
             if (verb == NONE) {
                 return false;
             }
             set(verbs, many, verb);
-            tokens.goToNext();
+            text.goToNext();
             for (int i = 0; i < numbersOf(verb); i++) {
-                if (tokens.kind != A_NUMBER) {
+                if (text.kind != A_NUMBER) {
                     return false;
                 }
-                set(i == 0 ? firsts : seconds, many, tokens.value);
-                if (wrongPlace == NONE && !canBe(verb, i, tokens.value)) {
-                    wrongPlace = tokens.start;
+                set(i == 0 ? firsts : seconds, many, text.value);
+                if (wrongPlace == NONE && !canBe(verb, i, text.value)) {
+                    wrongPlace = text.start;
                 }
-                tokens.goToNext();
+                text.goToNext();
             }
-            if (tokens.kind != THE_SIGN) {
+            if (text.kind != THE_SIGN) {
                 return false;
             }
-            tokens.goToNext();
+            text.goToNext();
             return true;
         }
 
-        int verbHere(int firstVerb, int lastVerb) {
+        int verbHere(Text text, int firstVerb, int lastVerb) {
             for (int verb = firstVerb; verb <= lastVerb; verb++) {
-                if (tokens.isThisWord(wordOf(verb))) {
+                if (text.isThisWord(wordOf(verb))) {
                     return verb;
                 }
             }

@@ -28,6 +28,8 @@ public final class LanguageTest {
         face();
         classes(TraceRing.class.getDeclaredClasses());
         words(code);
+        library(code);
+        constructors(code);
         methods(code);
         Check.due("signs above 127 in the source", source.chars().filter(c -> c > 127).count(), 0);
         Check.finish();
@@ -47,6 +49,8 @@ public final class LanguageTest {
         Check.due("the face is " + got + ", due is " + want, got.equals(want), true);
         for (Field f : TraceRing.class.getDeclaredFields()) {
             Check.due("field is private: " + f, Modifier.isPrivate(f.getModifiers()) || f.getName().equals("NONE"), true);
+            Check.due("no static state: " + f, Modifier.isFinal(f.getModifiers())
+                && (!Modifier.isStatic(f.getModifiers()) || f.getType() == int.class), true);
         }
         Check.due("public and final", Modifier.isFinal(TraceRing.class.getModifiers()), true);
         Check.due("constructors", TraceRing.class.getDeclaredConstructors().length, 1);
@@ -62,6 +66,9 @@ public final class LanguageTest {
             Check.due("static: " + c, Modifier.isStatic(c.getModifiers()), true);
             Check.due("private: " + c, Modifier.isPrivate(c.getModifiers()), true);
             Check.due("not too many fields: " + c, c.getDeclaredFields().length <= 20, true);
+            for (Field f : c.getDeclaredFields()) {
+                Check.due("no static state: " + f, Modifier.isStatic(f.getModifiers()), false);
+            }
             for (Method m : c.getDeclaredMethods()) {
                 Check.due("no name of the face: " + m, faceNames.contains(m.getName()), false);
                 Check.due("parameters: " + m, m.getParameterCount() <= 7, true);
@@ -78,6 +85,28 @@ public final class LanguageTest {
         }
         Check.due("arrows", code.contains("->") || code.contains("::"), false);
         Check.due("joined texts", Pattern.compile("\"\\s*\\+|\\+\\s*\"").matcher(code).find(), false);
+    }
+
+    private static void library(String code) {
+        for (String owner : new String[] {"Math", "System", "Integer", "Long", "Arrays", "String", "StringBuilder"}) {
+            Matcher call = Pattern.compile("\\b" + owner + "\\.(\\w+)").matcher(code);
+            while (call.find()) {
+                Check.due("may be called: " + call.group(),
+                    Set.of("Math.max", "Math.min", "System.arraycopy").contains(call.group()), true);
+            }
+        }
+    }
+
+    /** None is given anything, so none can hand out what it is given, or what it makes. */
+    private static void constructors(String code) {
+        Check.due("the word this", Pattern.compile("\\bthis\\b").matcher(code).find(), false);
+        Matcher made = Pattern.compile("\\bnew (\\w+)\\(([^)]*)\\)").matcher(code);
+        int seen = 0;
+        while (made.find()) {
+            seen++;
+            Check.due("a constructor of " + made.group(1) + " is given " + made.group(2), made.group(2).isEmpty(), true);
+        }
+        Check.due("constructors were seen", seen > 5, true);
     }
 
     private static void methods(String code) {
